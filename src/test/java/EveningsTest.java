@@ -33,9 +33,11 @@ final class EveningsTest {
             Check.same("the debt on " + evening, evening, x.debtAt(evening, 0, 0));
         }
         Check.same("the debt now", 12, x.debtAt(-1, 0, 0));
+        EveningLedger refusing = full();
+        Check.refuses("a 13th one", refusing, 1, 12, refusing::evening);
         EveningLedger y = full();
-        Check.refuses("a 13th one", y, 1, 12, y::evening);
-        Check.fails("the 13th one", Check.INDEX, () -> y.show(12));
+        Check.fails("a 13th one", Check.REFUSED, y::evening);
+        Check.fails("a question about it", Check.INDEX, () -> y.show(12));
         y.forget(5);
         Check.same("a number is not used again", 12, y.evening());
         Check.fails("full again", Check.REFUSED, y::evening);
@@ -83,7 +85,7 @@ final class EveningsTest {
     private static void promise12Forget() {
         EveningLedger x = Look.after("0+a5;e;0+b6;e");
         Check.failsCleanly("now", x, Check.INDEX, () -> x.forget(-1));
-        Check.failsCleanly("evening 3", x, Check.INDEX, () -> x.forget(3));
+        Check.fails("evening 3", Check.INDEX, () -> x.forget(3));
         Check.fails("evening -2", Check.INDEX, () -> x.forget(-2));
         Check.refuses("the latest one", x, 5, 2, () -> x.forget(2));
         Check.same("the sheet of then is gone", 1, x.forget(1));

@@ -105,17 +105,21 @@ final class HistoryTest {
 
     private static void promise36Restore() {
         EveningLedger x = Look.after("0+a5;e;0+b6;e;t0@1");
-        Check.failsCleanly("nothing saved", x, Check.STATE, x::restore);
+        Check.fails("nothing saved", Check.STATE, x::restore);
         x.save();
-        String before = Look.at(x).substring(Look.at(x).indexOf('\n'));
+        String before = withoutAccounts(Look.at(x));
         x.forget(1);
         x.add(3, 'a', 1);
         Look.input(x, "e");
         Check.same("kept", 3, x.restore());
-        Check.same("the state", before, Look.at(x).substring(Look.at(x).indexOf('\n')));
+        Check.same("the state", before, withoutAccounts(Look.at(x)));
         Check.same("the input stays", 1, x.account(10));
         x.forget(0);
         Check.same("it stays saved", 3, x.restore());
+    }
+
+    private static String withoutAccounts(String look) {
+        return look.substring(look.indexOf('\n'));
     }
 
     private static void promise36RestoreForgetsTheHistory() {
