@@ -603,7 +603,7 @@ public final class EveningLedger {
         private int daysWithSheet(int sheet, int page, int days) {
             int having = 0;
             for (int day = 0; day < days; day++) {
-                if (sheetOn(day, page) == sheet) {
+                if (sheets[day * PAGES + page] == sheet) {
                     having++;
                 }
             }
@@ -1028,11 +1028,11 @@ public final class EveningLedger {
             }
             if (takeSign('f')) {
                 kind = FORGETS;
-                return takeNumber();
+                return takeNumber(false);
             }
             if (takeSign('t')) {
                 kind = TAKES_OVER;
-                return takePage() && takeSign('@') && takeNumber();
+                return takePage() && takeSign('@') && takeNumber(false);
             }
             return takePage() && takeEntryCommand();
         }
@@ -1040,7 +1040,7 @@ public final class EveningLedger {
         private boolean takeEntryCommand() {
             if (takeSign('+')) {
                 kind = ADDS;
-                return takeLetter() && takeDebt();
+                return takeLetter() && takeNumber(true);
             }
             if (!takePlace()) {
                 return false;
@@ -1050,23 +1050,17 @@ public final class EveningLedger {
                 return true;
             }
             kind = WRITES;
-            return takeLetter() && takeDebt();
+            return takeLetter() && takeNumber(true);
         }
 
         private boolean takePage() {
-            if (!isAtSignFrom('0', '9')) {
-                return false;
-            }
             page = takeDigit();
-            return true;
+            return page != NONE;
         }
 
         private boolean takePlace() {
-            if (!isAtSignFrom('0', '9')) {
-                return false;
-            }
             place = takeDigit();
-            return true;
+            return place != NONE;
         }
 
         private boolean takeLetter() {
@@ -1078,26 +1072,23 @@ public final class EveningLedger {
             return true;
         }
 
-        private boolean takeDebt() {
-            boolean isBelow = takeSign('~');
-            if (!takeNumber()) {
-                return false;
+        private boolean takeNumber(boolean isDebt) {
+            int direction = isDebt && takeSign('~') ? -1 : 1;
+            number = 0;
+            for (int digits = 0; digits < NUMBER_DIGITS; digits++) {
+                int digit = takeDigit();
+                if (digit == NONE) {
+                    return digits > 0;
+                }
+                number = 10 * number + direction * digit;
             }
-            number = isBelow ? -number : number;
             return true;
         }
 
-        private boolean takeNumber() {
-            int digits = 0;
-            number = 0;
-            while (digits < NUMBER_DIGITS && isAtSignFrom('0', '9')) {
-                number = 10 * number + takeDigit();
-                digits++;
-            }
-            return digits > 0;
-        }
-
         private int takeDigit() {
+            if (!isAtSignFrom('0', '9')) {
+                return NONE;
+            }
             int digit = signs.charAt(at) - '0';
             at++;
             return digit;

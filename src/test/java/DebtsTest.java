@@ -64,6 +64,8 @@ final class DebtsTest {
         Check.same("now does not count", 3, x.without('b'));
         x.forget(0);
         Check.fails("none", Check.ELEMENT, () -> x.without('a'));
+        x.strike(7, 5);
+        Check.fails("none but now", Check.ELEMENT, () -> x.without('a'));
         Check.fails("person k", Check.ARGUMENT, () -> x.without('k'));
         Check.fails("person `", Check.ARGUMENT, () -> x.without('`'));
     }
@@ -74,6 +76,9 @@ final class DebtsTest {
         Check.same("the greatest first, then by letters", "cjbad", then);
         Check.same("now", "jbd", order(x, -1));
         Check.same("at the beginning", "", order(x, 0));
+        EveningLedger y = Look.after("00a9;75b1;e;00-;00a1;75-;75b9");
+        Check.same("then", "ab", order(y, 1));
+        Check.same("the other way round now", "ba", order(y, -1));
         Check.fails("place -1", Check.ELEMENT, () -> x.owing(1, -1));
         Check.fails("no such evening ahead of the place", Check.INDEX, () -> x.owing(2, -1));
         Check.fails("evening -2", Check.INDEX, () -> x.owing(-2, 0));
@@ -96,13 +101,13 @@ final class DebtsTest {
     }
 
     private static void promise22Greatest() {
-        EveningLedger x = Look.after("75a7;02b7;04c7;10d~1;11e999;73f7;e", "11-");
-        int[] then = {11, 2, 4, 73, 75, 10};
+        EveningLedger x = Look.after("75a7;00b7;04c7;10d~1;11e999;73f7;e", "11-");
+        int[] then = {11, 0, 4, 73, 75, 10};
         for (int place = 0; place < then.length; place++) {
             Check.same("greatest then, " + place, then[place], x.greatest(1, place));
         }
         Check.fails("behind the last one", Check.ELEMENT, () -> x.greatest(1, 6));
-        Check.same("greatest now", 2, x.greatest(-1, 0));
+        Check.same("greatest now", 0, x.greatest(-1, 0));
         Check.same("least now", 10, x.greatest(-1, 4));
         Check.fails("one less now", Check.ELEMENT, () -> x.greatest(-1, 5));
         Check.fails("place -1", Check.ELEMENT, () -> x.greatest(1, -1));

@@ -13,6 +13,7 @@ final class EntriesTest {
         promise8DebtAt();
         promise9PageOf();
         sheetsAreCopiedWhenShared();
+        nowIsChangedBehindForgottenEvenings();
         Check.finish();
     }
 
@@ -213,11 +214,33 @@ final class EntriesTest {
         Check.same("all evenings have the sheet of page 3", 3, x.pageOf(-1, 3, 3));
         x.forget(1);
         Check.same("a forgotten evening has none", 1, x.pageOf(2, 2, 3));
+        x.add(5, 'a', 1);
+        Check.same("people with an entry at the first place alone", 1, x.pageOf(-1, 5, 4));
+        x.write(6, 5, 'j', 1);
+        Check.same("people with an entry at the last place alone", 1, x.pageOf(-1, 6, 4));
+        Check.same("people without entries", 0, x.pageOf(-1, 7, 4));
+        x.write(6, 0, 'i', 1);
+        Check.same("people of the next page do not count", 1, x.pageOf(-1, 5, 4));
         Check.fails("that evening, ahead of the page", Check.INDEX, () -> x.pageOf(1, 8, 5));
         Check.fails("page 8", Check.ARGUMENT, () -> x.pageOf(0, 8, 0));
         Check.fails("page -1", Check.ARGUMENT, () -> x.pageOf(0, -1, 0));
         Check.fails("what 5", Check.ARGUMENT, () -> x.pageOf(0, 0, 5));
         Check.fails("what -1", Check.ARGUMENT, () -> x.pageOf(0, 0, -1));
+    }
+
+    private static void nowIsChangedBehindForgottenEvenings() {
+        EveningLedger x = Look.after("e;e;e;f0;f1;f2");
+        Check.same("write", 1, x.write(0, 5, 'a', 1));
+        Check.same("add", 0, x.add(0, 'b', -2));
+        Check.same("swap", 2, x.swap(0, 0, 5));
+        Check.same("owe", -3, x.owe(0, 5, -1));
+        Check.same("the page", "a1 . . . . b-3", Look.told(x, -1, 0));
+        Check.same("entries now", 2, x.account(5));
+        Check.same("sum now", -2, x.account(6));
+        x.evening();
+        Check.same("the evening", "a1 . . . . b-3", Look.told(x, 4, 0));
+        Check.same("strike", 1, x.strike(0, 0));
+        Check.same("the evening stays", "a1 . . . . b-3", Look.told(x, 4, 0));
     }
 
     private static void sheetsAreCopiedWhenShared() {

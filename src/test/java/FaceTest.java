@@ -13,13 +13,14 @@ final class FaceTest {
         "public int strike(int,int)", "public int swap(int,int,int)", "public char personAt(int,int,int)",
         "public int debtAt(int,int,int)", "public int pageOf(int,int,int)", "public int evening()",
         "public int takeOver(int,int)", "public int forget(int)", "public int keptAt(int)",
-        "public int sheetsApart(int,int)", "public int placesApart(int,int)", "public boolean isLike(int,int,int)",
-        "public int debt(int,char)", "public int debtAgain(int,char)", "public int greatestOn(char)",
-        "public int without(char)", "public char owing(int,int)", "public int greatest(int,int)",
-        "public int find(int,char)", "public int tell(int,int)", "public int show(int)", "public char character(int)",
-        "public double meanDebt(int)", "public float aloneShare()", "public int account(int)", "public int append(char)",
-        "public int read()", "public int errorPosition()", "public int reason(boolean)", "public int undo()",
-        "public int save()", "public int restore()"};
+        "public int sheetsApart(int,int)", "public int placesApart(int,int)",
+        "public boolean isLike(int,int,int)", "public int debt(int,char)", "public int debtAgain(int,char)",
+        "public int greatestOn(char)", "public int without(char)", "public char owing(int,int)",
+        "public int greatest(int,int)", "public int find(int,char)", "public int tell(int,int)",
+        "public int show(int)", "public char character(int)", "public double meanDebt(int)",
+        "public float aloneShare()", "public int account(int)", "public int append(char)",
+        "public int read()", "public int errorPosition()", "public int reason(boolean)",
+        "public int undo()", "public int save()", "public int restore()"};
 
     public static void main(String[] arguments) {
         Check.same("the class", "public final", Modifier.toString(EveningLedger.class.getModifiers()));

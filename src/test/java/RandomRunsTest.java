@@ -12,8 +12,9 @@ final class RandomRunsTest {
     private static final int CALLS = 512;
     private static final Map<String, Method> OF_LEDGER = methodsOf(EveningLedger.class);
     private static final Map<String, Method> OF_MODEL = methodsOf(LedgerModel.class);
-    private static final String[] QUESTIONS = {"personAt", "debtAt", "pageOf", "keptAt", "sheetsApart", "placesApart",
-        "isLike", "debt", "debtAgain", "greatestOn", "without", "owing", "greatest", "find", "tell", "show", "character",
+    private static final String[] QUESTIONS = {
+        "personAt", "debtAt", "pageOf", "keptAt", "sheetsApart", "placesApart", "isLike", "debt",
+            "debtAgain", "greatestOn", "without", "owing", "greatest", "find", "tell", "show", "character",
         "meanDebt", "aloneShare", "account", "errorPosition", "reason"};
 
     private final Random random;
