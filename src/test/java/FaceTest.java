@@ -31,6 +31,7 @@ final class FaceTest {
         }
         for (Class<?> inside : EveningLedger.class.getDeclaredClasses()) {
             Check.same(inside.getName(), "private static final", Modifier.toString(inside.getModifiers()));
+            theMembersInside(inside);
         }
         Check.finish();
     }
@@ -50,9 +51,25 @@ final class FaceTest {
                 found.add(withoutThrows(method));
             } else {
                 isPrivate(method);
+                Check.same(method.getName() + " is of the face", false, isOfTheFace(method.getName()));
             }
         }
         Check.same("the public methods", new TreeSet<>(Arrays.asList(FACE)), found);
+    }
+
+    /** LANGUAGE.md, rule 1: they are private, and none bears the name of a method of the face. */
+    private static void theMembersInside(Class<?> inside) {
+        for (Field field : inside.getDeclaredFields()) {
+            isPrivate(field);
+        }
+        for (Method method : inside.getDeclaredMethods()) {
+            isPrivate(method);
+            Check.same(method.getName() + " is of the face", false, isOfTheFace(method.getName()));
+        }
+    }
+
+    private static boolean isOfTheFace(String name) {
+        return Arrays.stream(FACE).anyMatch(method -> method.contains(" " + name + "("));
     }
 
     private static String withoutThrows(Method method) {

@@ -14,7 +14,7 @@ final class RandomRunsTest {
     private static final Map<String, Method> OF_MODEL = methodsOf(LedgerModel.class);
     private static final String[] QUESTIONS = {
         "personAt", "debtAt", "pageOf", "keptAt", "sheetsApart", "placesApart", "isLike", "debt",
-            "debtAgain", "greatestOn", "without", "owing", "greatest", "find", "tell", "show", "character",
+        "debtAgain", "greatestOn", "without", "owing", "greatest", "find", "tell", "show", "character",
         "meanDebt", "aloneShare", "account", "errorPosition", "reason"};
 
     private final Random random;
