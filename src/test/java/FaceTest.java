@@ -4,23 +4,30 @@ import java.lang.reflect.Member;
 import java.lang.reflect.Method;
 import java.lang.reflect.Modifier;
 import java.util.Arrays;
+import java.util.Map;
 import java.util.TreeSet;
+import java.util.stream.Collectors;
 
 /** The class has the document's face, and no other member that can be reached from outside. */
 final class FaceTest {
+    private static final Map<Class<?>, String> NAMES = Map.of(Check.INDEX, "INDEX", Check.ARGUMENT, "ARGUMENT",
+        Check.STATE, "STATE", Check.REFUSED, "REFUSED", Check.ELEMENT, "ELEMENT", Check.ARITHMETIC, "ARITHMETIC");
+    /** The methods with the exceptions that they tell of, in their order, by the names that Check has for them. */
     private static final String[] FACE = {
-        "public int add(int,char,int)", "public int write(int,int,char,int)", "public int owe(int,int,int)",
-        "public int strike(int,int)", "public int swap(int,int,int)", "public char personAt(int,int,int)",
-        "public int debtAt(int,int,int)", "public int pageOf(int,int,int)", "public int evening()",
-        "public int takeOver(int,int)", "public int forget(int)", "public int keptAt(int)",
-        "public int sheetsApart(int,int)", "public int placesApart(int,int)",
-        "public boolean isLike(int,int,int)", "public int debt(int,char)", "public int debtAgain(int,char)",
-        "public int greatestOn(char)", "public int without(char)", "public char owing(int,int)",
-        "public int greatest(int,int)", "public int find(int,char)", "public int tell(int,int)",
-        "public int show(int)", "public char character(int)", "public double meanDebt(int)",
-        "public float aloneShare()", "public int account(int)", "public int append(char)",
-        "public int read()", "public int errorPosition()", "public int reason(boolean)",
-        "public int undo()", "public int save()", "public int restore()"};
+        "int write(int,int,char,int) INDEX ARGUMENT REFUSED", "int add(int,char,int) INDEX ARGUMENT REFUSED",
+        "int owe(int,int,int) INDEX ARGUMENT REFUSED", "int strike(int,int) INDEX REFUSED",
+        "int swap(int,int,int) INDEX REFUSED", "char personAt(int,int,int) INDEX ARGUMENT ELEMENT",
+        "int debtAt(int,int,int) INDEX ARGUMENT", "int pageOf(int,int,int) INDEX ARGUMENT", "int evening() REFUSED",
+        "int takeOver(int,int) INDEX REFUSED", "int forget(int) INDEX REFUSED", "int keptAt(int) ELEMENT",
+        "int sheetsApart(int,int) INDEX", "int placesApart(int,int) INDEX",
+        "boolean isLike(int,int,int) INDEX ARGUMENT", "int debt(int,char) INDEX ARGUMENT",
+        "int debtAgain(int,char) INDEX ARGUMENT", "int greatestOn(char) ARGUMENT",
+        "int without(char) ARGUMENT ELEMENT", "char owing(int,int) INDEX ELEMENT",
+        "int greatest(int,int) INDEX ELEMENT", "int find(int,char) INDEX ARGUMENT ELEMENT",
+        "int tell(int,int) INDEX ARGUMENT", "int show(int) INDEX", "char character(int) ELEMENT",
+        "double meanDebt(int) INDEX ARITHMETIC", "float aloneShare()", "int account(int) ARGUMENT",
+        "int append(char) ARGUMENT STATE", "int read() ARGUMENT STATE REFUSED", "int errorPosition() ELEMENT",
+        "int reason(boolean) ELEMENT", "int undo() ELEMENT", "int save()", "int restore() STATE"};
 
     public static void main(String[] arguments) {
         Check.same("the class", "public final", Modifier.toString(EveningLedger.class.getModifiers()));
@@ -30,7 +37,10 @@ final class FaceTest {
             isPrivate(field);
         }
         for (Class<?> inside : EveningLedger.class.getDeclaredClasses()) {
-            Check.same(inside.getName(), "private static final", Modifier.toString(inside.getModifiers()));
+            int modifiers = inside.getModifiers();
+            Check.same(inside.getName() + " is static", true, Modifier.isStatic(modifiers));
+            Check.same(inside.getName() + " can be reached", false,
+                Modifier.isPublic(modifiers) || Modifier.isProtected(modifiers));
             theMembersInside(inside);
         }
         Check.finish();
@@ -48,7 +58,7 @@ final class FaceTest {
         TreeSet<String> found = new TreeSet<>();
         for (Method method : EveningLedger.class.getDeclaredMethods()) {
             if (Modifier.isPublic(method.getModifiers())) {
-                found.add(withoutThrows(method));
+                found.add(inShort(method));
             } else {
                 isPrivate(method);
                 Check.same(method.getName() + " is of the face", false, isOfTheFace(method.getName()));
@@ -72,8 +82,14 @@ final class FaceTest {
         return Arrays.stream(FACE).anyMatch(method -> method.contains(" " + name + "("));
     }
 
-    private static String withoutThrows(Method method) {
-        return method.toString().replace("EveningLedger.", "").replaceAll(" throws .*", "");
+    private static String inShort(Method method) {
+        StringBuilder told = new StringBuilder(method.getReturnType() + " " + method.getName() + "(");
+        told.append(Arrays.stream(method.getParameterTypes()).map(Class::getName).collect(Collectors.joining(",")));
+        told.append(')');
+        for (Class<?> thrown : method.getExceptionTypes()) {
+            told.append(' ').append(NAMES.getOrDefault(thrown, thrown.getName()));
+        }
+        return told.toString();
     }
 
     private static void isPrivate(Member member) {
