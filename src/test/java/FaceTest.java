@@ -1,14 +1,21 @@
+import java.io.IOException;
 import java.lang.reflect.Constructor;
 import java.lang.reflect.Field;
 import java.lang.reflect.Member;
 import java.lang.reflect.Method;
 import java.lang.reflect.Modifier;
+import java.nio.file.Files;
+import java.nio.file.Path;
+import java.util.ArrayList;
 import java.util.Arrays;
+import java.util.List;
 import java.util.Map;
 import java.util.TreeSet;
+import java.util.regex.Matcher;
+import java.util.regex.Pattern;
 import java.util.stream.Collectors;
 
-/** The class has the document's face, and no other member that can be reached from outside. */
+/** The class has the document's face, as it is written there, and no other member that can be reached from outside. */
 final class FaceTest {
     private static final Map<Class<?>, String> NAMES = Map.of(Check.INDEX, "INDEX", Check.ARGUMENT, "ARGUMENT",
         Check.STATE, "STATE", Check.REFUSED, "REFUSED", Check.ELEMENT, "ELEMENT", Check.ARITHMETIC, "ARITHMETIC");
@@ -29,7 +36,10 @@ final class FaceTest {
         "int append(char) ARGUMENT STATE", "int read() ARGUMENT STATE REFUSED", "int errorPosition() ELEMENT",
         "int reason(boolean) ELEMENT", "int undo() ELEMENT", "int save()", "int restore() STATE"};
 
-    public static void main(String[] arguments) {
+    private static final Path DOCUMENT = Path.of("..", "shared", "DOC.md");
+    private static final Path SOURCE = Path.of("src/main/java/EveningLedger.java");
+
+    public static void main(String[] arguments) throws IOException {
         Check.same("the class", "public final", Modifier.toString(EveningLedger.class.getModifiers()));
         Check.same("the constructors", "[public EveningLedger()]", constructors());
         theMethods();
@@ -43,7 +53,51 @@ final class FaceTest {
                 Modifier.isPublic(modifiers) || Modifier.isProtected(modifiers));
             theMembersInside(inside);
         }
+        if (Files.exists(DOCUMENT)) {
+            theInterfaceAsItIsWritten(Files.readString(DOCUMENT), Files.readString(SOURCE));
+            whatStandsAheadOfTheCalls(Files.readString(DOCUMENT), Files.readString(SOURCE));
+        }
         Check.finish();
+    }
+
+    /** "The public face", with the names of the arguments too, and in its order. */
+    private static void theInterfaceAsItIsWritten(String document, String source) {
+        String words = source.replaceAll("\\s+", " ");
+        String face = document.substring(document.indexOf("## The public face"), document.indexOf("## Terms"));
+        int at = 0;
+        int written = 0;
+        for (String line : face.lines().map(String::strip).filter(line -> line.matches("public .*;")).toList()) {
+            int found = words.indexOf(line.replace(";", " {"), at);
+            Check.same(line + " stands behind the one ahead", true, found >= 0);
+            at = Math.max(at, found);
+            written++;
+        }
+        Check.same("the constructor and the methods that are written there", 1 + FACE.length, written);
+    }
+
+    /** Of the terms: "Ahead of the calls .. the interface says: ----" and words. */
+    private static void whatStandsAheadOfTheCalls(String document, String source) {
+        Matcher said = Pattern.compile("Ahead of the calls (.*) the interface says: (---- .*)\\.").matcher(document);
+        int sections = 0;
+        while (said.find()) {
+            sections++;
+            String head = "// " + said.group(2) + "\n";
+            int start = source.indexOf(head);
+            Check.same("there is " + said.group(2), true, start >= 0);
+            String section = start < 0 ? "" : source.substring(start + head.length()).split("// ----")[0];
+            Check.same("the calls behind it", namesIn("`(\\w+)`", said.group(1)),
+                namesIn("\n    public \\w+ (\\w+)\\(", section));
+        }
+        Check.same("sections", 4, sections);
+    }
+
+    private static List<String> namesIn(String pattern, String text) {
+        List<String> names = new ArrayList<>();
+        Matcher name = Pattern.compile(pattern).matcher(text);
+        while (name.find()) {
+            names.add(name.group(1));
+        }
+        return names;
     }
 
     private static String constructors() {

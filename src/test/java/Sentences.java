@@ -13,6 +13,7 @@ import java.util.Set;
  */
 final class Sentences {
     static final String TERMS = "Terms";
+    static final String WHAT_IT_IS = "What it is";
     private static final Path DOCUMENT = Path.of("..", "shared", "DOC.md");
     private static final Map<String, Set<String>> ALL = readDocument();
     private static final Map<String, Set<String>> LEFT = readDocument();
@@ -62,6 +63,8 @@ final class Sentences {
                 readPromise(sections.computeIfAbsent(title.replaceAll(":.*", ""), key -> new LinkedHashSet<>()), words);
             } else if (title.equals(TERMS) && !words.startsWith("Ahead of the calls")) {
                 readTerms(sections, words);
+            } else if (title.equals(WHAT_IT_IS)) {
+                split(sections.computeIfAbsent(title, key -> new LinkedHashSet<>()), words);
             }
         }
     }

@@ -1,6 +1,7 @@
-/** What the document says under "Terms" of pages, evenings, sheets, debts and refusals, sentence by sentence. */
+/** What the document says at its beginning, and under "Terms" of pages, evenings, sheets, debts and refusals, sentence by sentence. */
 final class TermsTest {
     public static void main(String[] arguments) {
+        upTo512Calls();
         numbers();
         oldEvenings();
         pagesAndPlaces();
@@ -28,6 +29,37 @@ final class TermsTest {
         reasonsOfEvenings();
         reasonsOfPages();
         Check.finish(Sentences.TERMS, "Pages and entries", "Evenings", "Sheets", "Taking over", "Debts", "Refusals");
+    }
+
+    private static void upTo512Calls() {
+        Check.terms(Sentences.WHAT_IT_IS, "An object is used for at most 512 calls after it has been made;");
+        EveningLedger x = new EveningLedger();
+        x.add(0, 'a', 1);
+        for (int evening = 1; evening <= 170; evening++) {
+            x.evening();
+            x.owe(0, 0, 1);
+            x.forget(evening - 1);
+        }
+        Check.same("the 512th call tells the 170th copy", "178!,1,2,3,4,5,6,7".length(), x.show(-1));
+        EveningLedger y = new EveningLedger();
+        for (int text = 1; text <= 170; text++) {
+            y.append('0');
+            y.append(text % 2 == 1 ? 'e' : '!');
+            Check.fails("the text " + text, Check.ARGUMENT, y::read);
+        }
+        y.append('e');
+        Check.same("the 512th call lets an evening come", 1, y.read());
+        EveningLedger z = new EveningLedger();
+        z.add(0, 'a', 1);
+        for (int time = 1; time <= 127; time++) {
+            z.owe(0, 0, 1);
+            z.save();
+            z.owe(0, 0, 5);
+            z.restore();
+        }
+        Check.same("saved", 1, z.save());
+        Check.same("struck out", 128, z.strike(0, 0));
+        Check.same("the 512th call restores", 1, z.restore());
     }
 
     private static void numbers() {
